@@ -54,6 +54,7 @@ public final class FiniteTerms {
     private final Frac[] results = new Frac[TERMS];
     private final Frac given = new Frac();
     private final Frac second = new Frac();
+    private final Frac total = new Frac();
     private final Poly answer = new Poly();
 
     public FiniteTerms() {
@@ -214,11 +215,7 @@ public final class FiniteTerms {
             answer.clear();
             answer.put(0, z / 4 % PRIME);
             answer.put(1, 1);
-            given.den.setNumber(1);
-            for (int k = 0; k < z % 4; k++) {
-                second.den.become(given.den);
-                given.den.product(second.den, answer);
-            }
+            kit.raise(answer, z % 4, given.den);
             kit.reduce(given);
             now.store(termOf(v % FUNCTIONS, v / 4 % TERMS - REACH), given);
         }
@@ -562,7 +559,6 @@ public final class FiniteTerms {
     }
 
     private boolean multiplyTerms(int g, int h) {
-        Frac total = parts.spare;
         for (int k = -2 * REACH; k <= 2 * REACH; k++) {
             total.setNumber(0);
             for (int i = -REACH; i <= REACH; i++) {
@@ -822,6 +818,15 @@ public final class FiniteTerms {
             }
         }
 
+        /** Sets out to the power n of p, which is another polynomial. */
+        void raise(Poly p, int n, Poly out) {
+            out.setNumber(1);
+            for (int k = 0; k < n; k++) {
+                spare.product(out, p);
+                out.become(spare);
+            }
+        }
+
         /** Divides p by a polynomial that divides it. */
         void cut(Poly p, Poly d) {
             spare.quotient(p, d);
@@ -953,11 +958,7 @@ public final class FiniteTerms {
 
         /** Moves from r to q so much that the factors divide the denominator of r once less. */
         private void lower(int times, Poly w, Frac q, Frac r) {
-            power.setNumber(1);
-            for (int k = 1; k < times; k++) {
-                work.product(power, factor);
-                power.become(work);
-            }
+            kit.raise(factor, times - 1, power);
             held.product(power, factor);
             work.become(r.den);
             cofactor.quotient(work, held);
@@ -1175,6 +1176,7 @@ public final class FiniteTerms {
         final Poly root = new Poly();
         final Poly power = new Poly();
         final Poly work = new Poly();
+        final Poly shifted = new Poly();
         final Poly sums = new Poly();
         /** The polynomial whose zeros are the residues. */
         final Poly roots = new Poly();
@@ -1219,10 +1221,10 @@ public final class FiniteTerms {
 
         /** Multiplies work by x modulo below. */
         private void raise() {
-            slope.clear();
-            slope.addMultiple(work, 1, 1);
-            slope.reduceBy(below);
-            work.become(slope);
+            shifted.clear();
+            shifted.addMultiple(work, 1, 1);
+            shifted.reduceBy(below);
+            work.become(shifted);
         }
 
         private void applyNewton() {
@@ -1236,7 +1238,6 @@ public final class FiniteTerms {
                 }
                 roots.put(n - k, MINUS * (sum % PRIME) % PRIME * inverse(k));
             }
-            slope.slope(below);
         }
 
         int logarithms() {
@@ -1283,7 +1284,7 @@ public final class FiniteTerms {
     /** The tape, and the fraction that its text describes. */
     private static final class Reader {
         private static final int ATOM = 0, NUMBER = 1, BEHIND_ATOM = 2, FIGURE = 3, BEHIND_POWER = 4, WRONG = 5;
-        /** Codes below PRIME are numbers, and signs as of '(' would be mistaken for them. */
+        /** Codes below SIGNS are numbers, which have at most three digits. */
         private static final int SIGNS = 1000, POWERS = 2000;
         /** At each depth at most one sum and one product wait, and the innermost has an operand more. */
         private static final int VALUES = 2 * (NESTING + 1) + 1;

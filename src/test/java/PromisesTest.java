@@ -283,6 +283,16 @@ public final class PromisesTest {
         due(x.told(2, 2), 2);
         set(2, 0, "3/x");
         due(x.told(2, 2), 2);
+        x.join(2, 0, 1, 0);
+        set(2, -2, "2/x");
+        due(x.told(2, 2), 2);
+        x.join(2, 0, 1, 0);
+        set(2, 2, "x^2");
+        due(x.told(2, 2), 2);
+        set(0, 1, "x^6");
+        set(0, 2, "x^5");
+        set(0, 0, "5");
+        due(x.told(0, 1), 1);
 
         renew();
         set(0, 0, "x");
@@ -371,6 +381,8 @@ public final class PromisesTest {
         dueRead("((((((x))))))", "x");
         dueRead("((((((x))))))*((((((x))))))", "x^2");
         dueRead("x-x", "0");
+        dueRead("1+2*(1+2*(1+2*(1+2*(1+2*(1+2*(1+2*x))))))", "27*x+26");
+        dueRead("((((((x+1)*2+1)*2+1)*2+1)*2+1)*2+1)*2", "64*x+25");
         dueRead("1/x+1/(x+1)", "(2*x+1)/(x^2+x)");
         due(readAll(2, 2, "x+5"), 3);
         dueText(2, 2, "x+5");
@@ -603,6 +615,16 @@ public final class PromisesTest {
         due(x.join(1, 3, 0, 1), FULL);
         due(x.join(1, 3, 1, 1), 0b00100);
         dueText(1, 0, "1");
+        for (int side : new int[] {-2, 2}) {
+            renew();
+            set(0, side, "x");
+            set(1, -side, "x");
+            due(x.join(2, 3, 0, 1), FULL);
+            due(x.join(2, 3, 0, 0), 0b00100);
+            set(1, -side, "0");
+            set(1, -side / 2, "x");
+            due(x.join(2, 3, 0, 1), FULL);
+        }
     }
 
     private void derive() {
@@ -951,6 +973,13 @@ public final class PromisesTest {
         due(x.integral(1, 1, 0, 0), NONE);
         due(x.integral(1, 3, 1, 0), NONE);
         badIntegral(1);
+        // A function without t after one whose integral has t^3.
+        due(x.integral(0, 3, 0, 0), 1);
+        dueRow("rest 2 of a 0", k -> x.left(2, 2, 0, k));
+        due(x.integral(0, 3, 0, 0), 1);
+        due(x.tower(2, 1, 1, 0, 0), 1);
+        dueRow("rest 2 of a 0", k -> x.left(2, 2, 0, k));
+        due(x.asked(2, 0), 1);
         // u with a square: u' / u is 2 / x for u = x^2.
         x.tower(2, 0, 0, 1, 0);
         set(2, 1, "1/x");
