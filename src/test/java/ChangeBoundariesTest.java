@@ -409,6 +409,18 @@ public final class ChangeBoundariesTest {
             Bench.due(b.x.derive(1, 0), 0b11000);
             b.dueText(1, 2, "1");
             b.dueText(1, 1, "2");
+            // f(3) is 0, whatever stands in other functions.
+            b.set(1, 2, "x");
+            b.set(1, 1, "0");
+            for (int f : new int[] {0, 2}) {
+                for (int i = -2; i <= 2; i++) {
+                    b.set(f, i, "7*x");
+                }
+            }
+            Bench.due(b.x.derive(1, 1), 0b11000);
+            b.dueText(1, 2, "1");
+            b.set(0, -2, "0");
+            b.set(0, -1, "0");
             b.set(0, 2, "0");
             b.set(0, 1, "x^2");
             b.set(0, 0, "x^6");

@@ -31,6 +31,7 @@ public final class RefusalTest {
             c.type(" ".repeat(86));
         }, x -> x.type('7'), FULL));
         Bench.sentence("Questions change nothing", RefusalTest::questionsChangeNothing);
+        Bench.sentence("What a call answers depends on the state, not on the call before", RefusalTest::callsBeforeDoNotMatter);
         Bench.sentence("If several errors apply, the one that the method names first is returned", RefusalTest::orderOfErrors);
         Bench.sentence("NONE is returned only if no error applies", RefusalTest::noneComesLast);
         Bench.finish();
@@ -280,6 +281,71 @@ public final class RefusalTest {
                 question.on(c.x);
             });
             Bench.due("the same state after question " + k, after.equals(before), true);
+        }
+    }
+
+    /** Changes the object, and tells what came of it as one number. */
+    private static int after(FiniteTerms x, int answer) {
+        int told = answer;
+        for (int f = 0; f <= 2; f++) {
+            for (int i = -2; i <= 2; i++) {
+                for (int k = 0; k <= 6; k++) {
+                    told = told * 31 + x.coef(f, i, 0, k) + 131 * x.coef(f, i, 1, k);
+                }
+            }
+        }
+        return told;
+    }
+
+    private static int typeAndRead(FiniteTerms x, String text) {
+        x.read(0, 0);
+        for (int k = 0; k < text.length(); k++) {
+            x.type(text.charAt(k));
+        }
+        return after(x, x.read(0, 0));
+    }
+
+    private static int askOfOtherTower(FiniteTerms x, int kind, int f) {
+        x.tower(kind, 0, 1, 0, 0);
+        return x.asked(f, 0) * 1000 + x.pencil(f, 2, 0);
+    }
+
+    /** Each question behind each other one: nothing stays of what was worked out before. */
+    private static void callsBeforeDoNotMatter(Bench b) {
+        Bench.Call[] before = {
+            x -> x.letter(0, -1, 0), x -> x.letter(2, -2, 0), x -> x.part(0, -1, 1, 0), x -> x.part(1, 2, 4, 0), x -> x.split(0, -1, 0, 0),
+            x -> x.split(1, 2, 2, 0), x -> x.asked(1, 0), x -> x.asked(2, 3), x -> x.integral(2, 0, 0, 0), x -> x.left(1, 1, 0, 0),
+            x -> x.residue(1, 0), x -> x.log(2, 0, 1, 0), x -> x.pencil(1, 2, 0), x -> x.pencil(2, 1, 0), x -> x.join(2, 2, 0, 0),
+            x -> x.join(2, 2, 1, 1), x -> x.join(2, 0, 0, 1), x -> x.join(2, 3, 0, 1), x -> x.derive(2, 1), x -> x.seen(0, 0, 0, 2),
+            x -> x.lay(0, 0, 1, 1, 0), x -> x.film(0, 0, 2, 0, 0), x -> x.told(1, 1), x -> x.value(0, -1, 3),
+        };
+        Bench.Call[] then = {
+            x -> x.letter(1, 2, 1), x -> x.letter(2, 1, 0), x -> x.part(1, 2, 4, 0), x -> x.part(2, 0, 1, 0), x -> x.part(2, 1, 1, 0),
+            x -> x.split(1, 2, 0, 0), x -> x.split(2, 0, 0, 3), x -> x.split(2, 0, 2, 0), x -> x.split(2, -1, 1, 0), x -> x.asked(1, 0), x -> x.asked(1, 1),
+            x -> x.asked(1, 4), x -> x.asked(2, 0), x -> x.asked(2, 2), x -> x.integral(2, 0, 0, 3), x -> x.integral(2, 3, 0, 0),
+            x -> x.left(1, 1, 1, 0), x -> x.left(2, 0, 0, 0), x -> x.left(2, 1, 1, 0), x -> x.residue(1, 0), x -> x.residue(2, 0), x -> x.residue(2, 2),
+            x -> x.log(2, 0, 1, 1), x -> x.log(2, 0, 1, 2), x -> x.pencil(1, 2, 0), x -> x.pencil(2, 1, 1), x -> x.pencil(1, 1, 1),
+            x -> x.seen(0, 0, 0, 1), x -> after(x, x.lay(0, 0, 0, 0, 0)), x -> after(x, x.drift(1)), x -> after(x, x.drift(5)),
+            x -> after(x, x.join(0, 2, 2, 2)), x -> after(x, x.join(0, 3, 1, 2)), x -> after(x, x.derive(0, 2)),
+            x -> typeAndRead(x, "x/(x+1)"), x -> typeAndRead(x, "2"), x -> askOfOtherTower(x, 1, 0), x -> askOfOtherTower(x, 1, 1), x -> askOfOtherTower(x, 2, 1),
+        };
+        for (int k = 0; k < then.length; k++) {
+            Bench alone = new Bench();
+            busy(alone);
+            int want = then[k].on(alone.x);
+            for (int j = 0; j < before.length; j++) {
+                Bench behind = new Bench();
+                busy(behind);
+                before[j].on(behind.x);
+                Bench.due("answer " + k + " behind call " + j, then[k].on(behind.x), want);
+            }
+        }
+        // A tower leaves nothing for the next one: 1/x is a multiple of u' / u here, and no obstacle only for logarithms.
+        b.set(0, 1, "1/x");
+        for (int kind : new int[] {2, 1, 2, 1}) {
+            b.x.tower(kind, 0, 1, 0, 0);
+            Bench.due(b.x.asked(0, 0), kind - 1);
+            Bench.due(b.x.pencil(0, 2, 0), kind == 2 ? 101 : 0);
         }
     }
 

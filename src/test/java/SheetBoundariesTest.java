@@ -195,6 +195,15 @@ public final class SheetBoundariesTest {
             b.dueTerm(1, 1, Bench.row(), Bench.row(1));
             Bench.due(b.x.undo(), 2);
             b.dueText(1, 1, "4*x^2");
+            // Also behind a quotient that was refused because it has x^10.
+            b.set(0, -1, "x^6");
+            b.set(1, 1, "0");
+            b.set(1, 2, "1/(x^4+2)");
+            Bench.due(b.x.join(2, 3, 0, 1), Bench.FULL);
+            b.fill(2, 0, 0, 1, 1, 0, 0, 0, 0, 0, 1, 1, 0, 0, 0);
+            Bench.due(b.x.join(2, 3, 0, 1), Bench.FULL);
+            Bench.due(b.x.lay(2, 2, 2, 0, 0), 1);
+            b.dueText(2, 2, "1");
         });
         Bench.sentence("lay: INDEX if not all these elements exist", b -> {
             for (int lane = 0; lane <= 3; lane++) {

@@ -300,6 +300,18 @@ public final class TermBoundariesTest {
                 b.set(0, i, (i + 3) + "/(x^4+7)");
             }
             Bench.due(b.x.told(0, 1), 1);
+            // Numerators do not count, whatever their powers.
+            String[] powers = {"x^6", "x^5", "x", "1", "0"};
+            for (int i = -2; i <= 2; i++) {
+                b.set(1, i, powers[i + 2]);
+            }
+            Bench.due(b.x.told(1, 1), 1);
+            // Nor do other functions: the last term of 1 and the first one of 2 have the same denominator.
+            Bench.due(b.x.told(2, 1), 1);
+            b.set(1, 2, "1/x");
+            b.set(2, -2, "2/x");
+            Bench.due(b.x.told(1, 1), 2);
+            Bench.due(b.x.told(2, 1), 2);
             // Denominators that differ in one coefficient alone, the first or the last.
             b.set(0, 2, "1/(x^4+8)");
             Bench.due(b.x.told(0, 1), 2);

@@ -409,7 +409,7 @@ public final class TextBoundariesTest {
             }
         });
         Bench.sentence("The tape is empty then, also after an error other than BAD.", b -> {
-            for (String text : new String[] {"x", "x+", "?", "1/0", "x^7", " ".repeat(90)}) {
+            for (String text : new String[] {"x", "x+", "?", "1/0", "x^7", " ".repeat(90), "(x", "((((((", "1+2*(3-?", "(1/0)", "123", "x^"}) {
                 b.renew();
                 b.read(0, 0, text);
                 Bench.due(b.x.type('7'), 1);
