@@ -238,27 +238,36 @@ public final class ChangeBoundariesTest {
             b.set(0, 1, "1/(x+1)^2");
             Bench.due(b.x.join(2, 2, 0, 1), FULL);
         });
-        Bench.sentence("the limits hold for the terms of the result: sums of products are not limited in between", b -> {
-            // t^1: 1/x^4 * 1/(x+1) - 1/x^4 * 1/(x+1) + 1, where each product has a denominator of degree 5.
-            b.set(0, 0, "1/x^4");
-            b.set(0, 1, "100/x^4");
-            b.set(0, 2, "0");
-            b.set(1, 1, "x^4/(x+1)");
-            b.set(1, 0, "x^4/(x+1)");
-            Bench.due(b.x.join(2, 2, 0, 1), 0b10100);
-            b.dueText(2, 0, "(1)/(x+1)");
-            b.dueText(2, 1, "0");
-            b.dueText(2, 2, "(100)/(x+1)");
-            // The same where the two products of t^1 exceed the limits: x^5 * x^2 and its opposite, while t^0 and t^2 do not.
+        Bench.sentence("the limits hold for the terms of the result: products and their sums are not limited in between", b -> {
+            // t^1: 1/(x^2*(x+1)^3) - 1/x^2, where the first product has a denominator of degree 5, and the sum one of 4.
+            b.set(0, 0, "1/(x*(x+1)^2)");
+            b.set(0, 1, "100/x");
+            b.set(1, 0, "1/x");
+            b.set(1, 1, "1/(x*(x+1))");
+            Bench.due(b.x.join(2, 2, 0, 1), 0b11100);
+            b.dueText(2, 0, "(1)/(x^4+2*x^3+x^2)");
+            b.dueText(2, 1, "(100*x^2+98*x+98)/(x^4+3*x^3+3*x^2+x)");
+            b.dueText(2, 2, "(100)/(x^3+x^2)");
+            Bench.due(b.x.join(2, 2, 1, 0), 0b11100);
+            b.dueText(2, 1, "(100*x^2+98*x+98)/(x^4+3*x^3+3*x^2+x)");
+            // The same one power of t lower, and with an operand that is set.
             b.renew();
-            b.set(0, -1, "x^5");
-            b.set(0, 1, "x^5");
-            b.set(1, 1, "x/(x^2+2)");
-            b.set(1, -1, "100*x/(x^2+2)");
-            Bench.due(b.x.join(2, 2, 0, 1), 0b10001);
-            b.dueText(2, -2, "(100*x^6)/(x^2+2)");
-            b.dueText(2, 0, "0");
-            b.dueText(2, 2, "(x^6)/(x^2+2)");
+            b.set(0, -1, "1/(x*(x+1)^2)");
+            b.set(0, 0, "100/x");
+            b.set(1, -1, "1/x");
+            b.set(1, 0, "1/(x*(x+1))");
+            Bench.due(b.x.join(0, 2, 0, 1), 0b00111);
+            b.dueText(0, -1, "(100*x^2+98*x+98)/(x^4+3*x^3+3*x^2+x)");
+        });
+        Bench.sentence("a term of a product is reduced before its limits count", b -> {
+            b.set(0, 1, "x^6");
+            b.set(1, 1, "(x+1)/x");
+            Bench.due(b.x.join(2, 2, 0, 1), 0b10000);
+            b.dueText(2, 2, "x^6+x^5");
+            b.set(0, 1, "1/x^4");
+            b.set(1, 1, "x/(x+1)");
+            Bench.due(b.x.join(2, 2, 0, 1), 0b10000);
+            b.dueText(2, 2, "(1)/(x^4+x^3)");
         });
         Bench.sentence("t^i * t^j is t^(i + j): a product of five terms by one, and the sum of five products", b -> {
             for (int i = -2; i <= 2; i++) {
@@ -344,6 +353,15 @@ public final class ChangeBoundariesTest {
             Bench.due(b.x.join(2, 3, 0, 1), FULL);
             Bench.due(b.x.join(2, 3, 1, 1), 4);
             b.dueText(2, 0, "1");
+            // Reduced before the limits count.
+            b.set(0, 0, "x^6");
+            b.set(1, 0, "x^4/(x+1)^2");
+            Bench.due(b.x.join(2, 3, 0, 1), 4);
+            b.dueText(2, 0, "x^4+2*x^3+x^2");
+            b.set(0, 0, "x^3/(x+1)^4");
+            b.set(1, 0, "x^5/(x+1)^3");
+            Bench.due(b.x.join(2, 3, 0, 1), 4);
+            b.dueText(2, 0, "(1)/(x^3+x^2)");
         });
     }
 
@@ -469,6 +487,20 @@ public final class ChangeBoundariesTest {
                 Bench.due(b.x.derive(0, 0) & 1 << i + 2, 1 << i + 2);
                 Bench.due(b.x.count(5), changes + 2);
             }
+        });
+        Bench.sentence("derive: the limits hold for the terms of the result: what is added to f(i)' may cancel poles of it", b -> {
+            // With u = x, 2 * f(2) / x is 2/x^4, which is what the derivative of 2/3/x^3 lacks; f(1) has a denominator of degree 4.
+            b.x.tower(2, 0, 1, 0, 0);
+            b.set(0, 2, "1/x^3");
+            b.set(0, 1, "2/(3*x^3)+1/(x+1)");
+            b.set(0, 0, "2/(9*x^3)");
+            Bench.due(b.x.derive(1, 0), 0b11100);
+            b.dueText(1, 2, "(98)/(x^4)");
+            b.dueText(1, 1, "(100)/(x^2+2*x+1)");
+            b.dueText(1, 0, "(1)/(x^2+x)");
+            // Without f(2) the pole of f(1)' stays.
+            b.set(0, 2, "0");
+            Bench.due(b.x.derive(1, 0), FULL);
         });
     }
 
@@ -669,6 +701,24 @@ public final class ChangeBoundariesTest {
             Bench.due(b.x.count(0), 0);
             Bench.due(b.x.undo(), 0);
             b.dueText(0, 0, "0");
+        });
+        Bench.sentence("a call that sets all as it was is a change, too", b -> {
+            Bench.due(b.x.join(0, 0, 0, 0), 0);
+            Bench.due(b.x.count(5), 1);
+            Bench.due(b.x.derive(0, 0), 0);
+            Bench.due(b.x.count(5), 2);
+            b.set(0, 0, "0");
+            Bench.due(b.x.count(5), 3);
+            b.set(1, 0, "x");
+            b.set(1, 0, "x");
+            Bench.due(b.x.count(5), 5);
+            Bench.due(b.x.join(1, 0, 1, 0), 4);
+            Bench.due(b.x.count(5), 6);
+            Bench.due(b.x.undo(), 5);
+            Bench.due(b.x.undo(), 4);
+            b.dueText(1, 0, "x");
+            Bench.due(b.x.undo(), 3);
+            b.dueText(1, 0, "0");
         });
         Bench.sentence("all other calls are no changes", b -> {
             b.set(0, 0, "1/x");

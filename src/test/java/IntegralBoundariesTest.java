@@ -175,6 +175,21 @@ public final class IntegralBoundariesTest {
             Bench.dueRow("r of a polynomial", k -> b.x.split(0, 0, 2, k));
             Bench.dueRow("its denominator", k -> b.x.split(0, 0, 3, k), 1);
         });
+        Bench.sentence("Returns a coefficient of the result of splitting a term by 0, whatever the tower is", b -> {
+            for (int kind = 0; kind <= 2; kind++) {
+                for (int i = -2; i <= 2; i++) {
+                    int term = i;
+                    b.renew();
+                    b.x.tower(kind, 0, kind == 0 ? 0 : 1, kind == 0 ? 0 : 5, 0);
+                    b.set(0, i, "3*x^2+2/(x+1)^3+4/x");
+                    // q is x^3 - 1 / (x + 1)^2, and r is 4 / x.
+                    Bench.dueRow("numerator of q", k -> b.x.split(0, term, 0, k), 100, 0, 0, 1, 2, 1);
+                    Bench.dueRow("denominator of q", k -> b.x.split(0, term, 1, k), 1, 2, 1);
+                    Bench.dueRow("numerator of r", k -> b.x.split(0, term, 2, k), 4);
+                    Bench.dueRow("denominator of r", k -> b.x.split(0, term, 3, k), 0, 1);
+                }
+            }
+        });
     }
 
     // ---- promise 17
@@ -428,6 +443,26 @@ public final class IntegralBoundariesTest {
             dueIntegralOfDerivative(b);
             b.set(0, 2, "1/x+4");
             dueIntegralOfDerivative(b);
+        });
+        Bench.sentence("parts and rests have no limits of terms: numerators of degree 12, denominators of degree 5", b -> {
+            b.x.tower(2, 0, 1, 0, 0);
+            b.set(0, 2, "x^6");
+            b.set(0, 1, "1/(x+1)^4");
+            b.set(0, 0, "1/(x+3)^4");
+            Model.Fr seventh = fraction(Bench.row(0, 0, 0, 0, 0, 0, 0, 1), 7);
+            Model.Fr cube = fraction(Bench.row(1), 3, 9, 9, 3);
+            dueFrac("part 2", piece(b, 0, 2), seventh);
+            // f(1) - 2 * q(2) / x is 1 / (x + 1)^4 - 2 / 7 * x^6.
+            Model.Fr one = fraction(Bench.row(0, 0, 0, 0, 0, 0, 0, -2), 49).plus(cube, -1);
+            dueFrac("part 1", piece(b, 0, 1), one);
+            // f(0) - q(1) / x is 1 / (x + 3)^4 + 2 / 49 * x^6 + 1 / (3 * x * (x + 1)^3), and 1 / (x * (x + 1)^3) is
+            // 1 / x - 1 / (x + 1) - 1 / (x + 1)^2 - 1 / (x + 1)^3.
+            Model.Fr none = fraction(Bench.row(0, 0, 0, 0, 0, 0, 0, 2), 343).plus(fraction(Bench.row(1), 81, 81, 27, 3), -1)
+                .plus(fraction(Bench.row(1), 3, 3), 1).plus(fraction(Bench.row(1), 6, 12, 6), 1);
+            dueFrac("part 0", piece(b, 0, 0), none);
+            Bench.due("degree of the numerator", Model.deg(none.n()), 12);
+            Bench.due("degree of the denominator", Model.deg(none.d()), 5);
+            dueFrac("rest 0", rest(b, 0, 0), fraction(Bench.row(1), 0, 3, 3));
         });
         Bench.sentence("q(3) is 0 without such a number, also after a function that has one", b -> {
             b.x.tower(2, 0, 1, 0, 0);
@@ -802,7 +837,36 @@ public final class IntegralBoundariesTest {
             b.x.tower(0, 0, 0, 0, 0);
             Bench.due(b.x.pencil(0, 1, 1), NOT);
         });
+        Bench.sentence("pencil: with a logarithm the parts of greater terms count in the rests of lesser ones", b -> {
+            b.x.tower(2, 0, 1, 0, 0);
+            b.set(0, 1, "x+1/(x+1)");
+            b.set(1, 1, "x^2+5/(x+1)");
+            duePencil(b, 0, 1, 1, 20);
+            duePencil(b, 1, 0, 1, 96);
+            // (t^2 / (x + 1))' is -t^2 / (x + 1)^2 + 2 * t / x - 2 * t / (x + 1), and only the last one is in need of g.
+            b.renew();
+            b.x.tower(2, 0, 1, 0, 0);
+            b.set(0, 2, "100/(x+1)^2");
+            b.set(1, 1, "1/(x+1)");
+            duePencil(b, 0, 1, 1, 99);
+            duePencil(b, 1, 0, 1, 50);
+            b.set(1, 0, "1/(x+7)");
+            duePencil(b, 0, 1, 1, 99);
+        });
         Bench.sentence("pencil: nothing is limited where f + c * g is more than a term can be", b -> {
+            b.set(0, 0, "1/x^4");
+            b.set(1, 0, "1/(x+1)^4");
+            duePencil(b, 0, 1, 101, 0);
+            // (t / x^3)' and (t / (x + 1)^3)', whose sum has a denominator of degree 8.
+            b.x.tower(1, 0, 1, 0, 0);
+            b.set(0, 1, "(x+98)/x^4");
+            b.set(1, 1, "(x+99)/(x+1)^4");
+            duePencil(b, 0, 1, 101, 0);
+            // (t / x^2)' + 7 * t / (x + 2), and (t / (x + 1)^2)' - t / (x + 2): what is left of both vanishes for 7 alone.
+            b.set(0, 1, "(x+99)/x^3+7/(x+2)");
+            b.set(1, 1, "(x+100)/(x+1)^3-1/(x+2)");
+            duePencil(b, 0, 1, 1, 7);
+            b.renew();
             b.x.tower(1, 0, 0, 0, 1);
             b.set(0, 1, "x^6/(x^4+2)");
             b.set(1, 1, "x^6/(x^4+3)");

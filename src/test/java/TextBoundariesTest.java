@@ -315,6 +315,9 @@ public final class TextBoundariesTest {
             b.dueError("x^6*x/x", FULL);
             b.dueRead("x^6*(1/x)*x", "x^6");
             b.dueRead("x^6*0", "0");
+            // Products are reduced before the limits count.
+            b.dueRead("x^6*((x+1)/x)", "x^6+x^5");
+            b.dueRead("(1/x^4)*(x/(x+1))", "(1)/(x^4+x^3)");
         });
         Bench.sentence("The result of each / must satisfy the limits for terms (else FULL)", b -> {
             b.dueRead("1/x^3/x", "(1)/(x^4)");
@@ -327,6 +330,8 @@ public final class TextBoundariesTest {
             b.dueRead("x^6/x^6", "1");
             b.dueRead("x^2/x^6", "(1)/(x^4)");
             b.dueError("x/x^6", FULL);
+            b.dueRead("x^6/(x/(x+1))", "x^6+x^5");
+            b.dueRead("x/(x+1)^4/x", "(1)/(x^4+4*x^3+6*x^2+4*x+1)");
         });
         Bench.sentence("The result of each step of a power must satisfy the limits for terms (else FULL)", b -> {
             b.dueRead("(x^2)^3", "x^6");
